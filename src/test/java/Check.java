@@ -1,0 +1,100 @@
+import java.nio.charset.StandardCharsets;
+import java.util.concurrent.Callable;
+
+/** What all tests use: feeding texts, comparing answers, and the exit code. */
+final class Check {
+    private int wrong;
+    private int looked;
+
+    /** An answer that is due. */
+    void due(String what, long is, long due) {
+        looked++;
+        if (is != due) {
+            wrong++;
+            System.out.println(what + " is " + is + ", due is " + due);
+        }
+    }
+
+    /** An exception that is due, of just that class. */
+    void thrown(String what, Class<? extends RuntimeException> due, Callable<?> call) {
+        looked++;
+        Class<?> got = null;
+        try {
+            call.call();
+        } catch (Exception e) {
+            got = e.getClass();
+        }
+        if (got != due) {
+            wrong++;
+            System.out.println(what + " throws " + got + ", due is " + due);
+        }
+    }
+
+    void finish() {
+        System.out.println(looked + " answers looked at, " + wrong + " wrong");
+        System.exit(wrong == 0 && looked > 0 ? 0 : 1);
+    }
+
+    int wrongSoFar() {
+        return wrong;
+    }
+
+    static void feed(MachineLoom loom, String text) {
+        feed(loom, text.getBytes(StandardCharsets.ISO_8859_1));
+    }
+
+    /** Twenty bytes at a time; what is too many at the end goes again. */
+    static void feed(MachineLoom loom, byte[] bytes) {
+        for (int at = 0; at < bytes.length; at += 20) {
+            int[] numbers = new int[5];
+            for (int i = 0; i < 20; i++) {
+                int value = at + i < bytes.length ? bytes[at + i] & 255 : 0;
+                numbers[i / 4] = numbers[i / 4] << 8 | value;
+            }
+            loom.feed(numbers[0], numbers[1], numbers[2], numbers[3], numbers[4]);
+        }
+        loom.end((20 - bytes.length % 20) % 20);
+    }
+
+    static int build(MachineLoom loom, String text) {
+        feed(loom, text);
+        return loom.build();
+    }
+
+    /** A new object with that text built. */
+    static MachineLoom of(String text) {
+        MachineLoom loom = new MachineLoom();
+        build(loom, text);
+        return loom;
+    }
+
+    /** The text is refused with that fault; a stroke ` in it stands before THE PLACE and isn't fed. */
+    void fault(String text, int number) {
+        int place = text.indexOf('`');
+        String fed = place < 0 ? text : text.substring(0, place) + text.substring(place + 1);
+        fault(fed, number, place, -1);
+    }
+
+    void fault(String text, int number, int place, int other) {
+        MachineLoom loom = new MachineLoom();
+        String shown = text.length() > 300 ? text.substring(0, 300) + ".." : text;
+        thrown(shown, IllegalStateException.class, () -> build(loom, text));
+        due("fault(0) of " + shown, loom.fault(0), number);
+        due("fault(1) of " + shown, loom.fault(1), place);
+        due("fault(2) of " + shown, loom.fault(2), other);
+        due("count(0) of " + shown, loom.count(0), 0);
+    }
+
+    /** The text has no FAULT. */
+    void right(String text) {
+        MachineLoom loom = new MachineLoom();
+        String shown = text.length() > 300 ? text.substring(0, 300) + ".." : text;
+        try {
+            build(loom, text);
+        } catch (IllegalStateException e) {
+            // What the fault is follows.
+        }
+        due("fault(0) of " + shown, loom.fault(0), 0);
+        due("fault(1) of " + shown, loom.fault(1), -1);
+    }
+}
