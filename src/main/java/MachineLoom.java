@@ -464,6 +464,10 @@ public final class MachineLoom {
 
     /** INPUT cut into TOKENS, and the one that the reader is at. */
     private static final class Tokens {
+        // 2^64 - 1 without its last digit, and that one.
+        private static final long MOST_TENTH = 1844674407370955161L;
+        private static final int MOST_LAST = 5;
+
         // Row 0 is a TOKEN that stands for one that was not there.
         final int[] kinds = new int[ROOM + 2];
         final int[] places = new int[ROOM + 2];
@@ -526,8 +530,8 @@ public final class MachineLoom {
             int place = from;
             for (; place < length && isDigit(text[place]); place++) {
                 int digit = text[place] - '0';
-                boolean more = value < 0 || value > 1844674407370955161L;
-                if (more || value == 1844674407370955161L && digit > 5) {
+                boolean more = value < 0 || value > MOST_TENTH;
+                if (more || value == MOST_TENTH && digit > MOST_LAST) {
                     return broken(place);
                 }
                 value = value * 10 + digit;
@@ -694,8 +698,10 @@ public final class MachineLoom {
         final Symbols symbols;
         final int[] kinds = new int[MOST_SYMBOLS];
         final int[] indexes = new int[MOST_SYMBOLS];
-        final boolean[] ops = new boolean[MOST_SYMBOLS];
-        final boolean[] letters = new boolean[128];
+        // 1: an op has that NAME.
+        final byte[] ops = new byte[MOST_SYMBOLS];
+        // How often a letter stands in the CODE of the op, and where.
+        final int[] letters = new int[128];
         final long[] masks = new long[128];
         final int[] scope = new int[MOST_LETS];
         int inScope;
@@ -708,7 +714,7 @@ public final class MachineLoom {
 
         void clear() {
             Arrays.fill(kinds, 0, symbols.size, UNKNOWN);
-            Arrays.fill(ops, 0, symbols.size, false);
+            Arrays.fill(ops, 0, symbols.size, (byte) 0);
             leaveOp();
         }
 
@@ -718,7 +724,7 @@ public final class MachineLoom {
         }
 
         int kindOf(int symbol) {
-            return letters[symbols.letter(symbol)] ? LETTER : kinds[symbol];
+            return letters[symbols.letter(symbol)] > 0 ? LETTER : kinds[symbol];
         }
 
         long maskOf(int symbol) {
@@ -729,7 +735,7 @@ public final class MachineLoom {
             for (int i = 0; i < signs; i++) {
                 int sign = text[from + i];
                 if (sign >= 'A') {
-                    letters[sign] = true;
+                    letters[sign]++;
                     // In a CODE of a wrong size the letters have no WIDTH.
                     masks[sign] |= signs == length ? 1L << length - 1 - i : 0;
                 }
@@ -737,7 +743,7 @@ public final class MachineLoom {
         }
 
         void leaveOp() {
-            Arrays.fill(letters, false);
+            Arrays.fill(letters, 0);
             Arrays.fill(masks, 0);
             forget(0);
             lets = 0;
@@ -1563,7 +1569,7 @@ public final class MachineLoom {
             int symbol = symbolOf(name);
             int from = tokens.places[code] + 1;
             int signs = (int) tokens.numbers[code];
-            if (names.ops[symbol]) {
+            if (names.ops[symbol] == 1) {
                 tell(name, WRONG_NAME);
             } else if (program.ops == MOST_OPS) {
                 tell(name, TOO_MUCH);
@@ -1573,7 +1579,7 @@ public final class MachineLoom {
             if (signs != program.length) {
                 tell(code, WRONG_CODE);
             }
-            names.ops[symbol] = true;
+            names.ops[symbol] = 1;
             names.enterOp(tokens.text, from, signs, program.length);
         }
 

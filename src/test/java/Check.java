@@ -43,17 +43,25 @@ final class Check {
         feed(loom, text.getBytes(StandardCharsets.ISO_8859_1));
     }
 
-    /** Twenty bytes at a time; what is too many at the end goes again. */
+    /** Twenty bytes at a time, the first ones fewer, so that INPUT can be filled to its last byte. */
     static void feed(MachineLoom loom, byte[] bytes) {
-        for (int at = 0; at < bytes.length; at += 20) {
-            int[] numbers = new int[5];
-            for (int i = 0; i < 20; i++) {
-                int value = at + i < bytes.length ? bytes[at + i] & 255 : 0;
-                numbers[i / 4] = numbers[i / 4] << 8 | value;
-            }
-            loom.feed(numbers[0], numbers[1], numbers[2], numbers[3], numbers[4]);
+        int few = bytes.length % 20;
+        if (few > 0) {
+            feedTwenty(loom, bytes, 0);
+            loom.end(20 - few);
         }
-        loom.end((20 - bytes.length % 20) % 20);
+        for (int at = few; at < bytes.length; at += 20) {
+            feedTwenty(loom, bytes, at);
+        }
+    }
+
+    private static void feedTwenty(MachineLoom loom, byte[] bytes, int at) {
+        int[] numbers = new int[5];
+        for (int i = 0; i < 20; i++) {
+            int value = at + i < bytes.length ? bytes[at + i] & 255 : 0;
+            numbers[i / 4] = numbers[i / 4] << 8 | value;
+        }
+        loom.feed(numbers[0], numbers[1], numbers[2], numbers[3], numbers[4]);
     }
 
     static int build(MachineLoom loom, String text) {
