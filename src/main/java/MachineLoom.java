@@ -1393,19 +1393,25 @@ public final class MachineLoom {
         private int blocks;
 
         boolean weave(byte[] text, int length, Program into) {
-            program = into;
-            program.clear();
-            exprs.program = into;
-            faults.clear();
-            other = -1;
-            blocks = 0;
+            begin(into);
             tokens.cut(text, length);
             names.clear();
             readBits();
-            mode = ITEM;
             // Each turn but that at the end of an EXPR takes a TOKEN.
             for (int turn = 0; turn < 4 * ROOM && mode != FINISHED && tokens.right(); turn++) {
-                readOn();
+                if (mode == ITEM) {
+                    item();
+                } else if (mode == STATEMENT) {
+                    statement();
+                } else if (mode == OPERAND) {
+                    mode = exprs.operand() ? AFTER : OPERAND;
+                } else {
+                    int state = exprs.after();
+                    mode = state == Exprs.DUE ? OPERAND : AFTER;
+                    if (state == Exprs.ALL_OVER) {
+                        finish();
+                    }
+                }
             }
             if (!tokens.right()) {
                 faults.clear();
@@ -1418,21 +1424,14 @@ public final class MachineLoom {
             return true;
         }
 
-        private void readOn() {
-            if (mode == ITEM) {
-                item();
-            } else if (mode == STATEMENT) {
-                statement();
-            } else if (mode == OPERAND) {
-                mode = exprs.operand() ? AFTER : OPERAND;
-            } else {
-                int state = exprs.after();
-                if (state == Exprs.ALL_OVER) {
-                    finish();
-                } else {
-                    mode = state == Exprs.DUE ? OPERAND : AFTER;
-                }
-            }
+        private void begin(Program into) {
+            program = into;
+            program.clear();
+            exprs.program = into;
+            faults.clear();
+            other = -1;
+            blocks = 0;
+            mode = ITEM;
         }
 
         private void tell(int token, int number) {

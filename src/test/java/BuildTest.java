@@ -8,6 +8,7 @@ public final class BuildTest {
         faultStays();
         turns();
         sameTextTwice();
+        decodesAnew();
         CHECK.finish();
     }
 
@@ -123,5 +124,34 @@ public final class BuildTest {
         CHECK.due("build", Check.build(loom, text), 1);
         Check.build(loom, "bits 8; reg l: 8; reg a: 8; op k \"00000000\" { l = a; let o = l; }");
         CHECK.thrown("no fetch is left", IllegalStateException.class, () -> loom.run(1));
+    }
+
+    /** Machines of one object that decode in another way each. */
+    private static void decodesAnew() {
+        MachineLoom loom = new MachineLoom();
+        String[][] codes = {{"1.......", "01......", "00......"}, {"0.......", "1......."}, {"11......", "0......1", "10......", "0......0"}};
+        for (int turn = 0; turn < 12; turn++) {
+            String[] some = codes[turn % 3];
+            StringBuilder b = new StringBuilder("bits 8;");
+            for (int op = 0; op < some.length; op++) {
+                b.append("op o").append(op).append(" \"").append(some[op]).append("\"{}");
+            }
+            CHECK.due("build", Check.build(loom, b.toString()), some.length);
+            for (int op = 0; op < some.length; op++) {
+                int word = Integer.parseInt(some[op].replace('.', turn % 2 == 0 ? '0' : '1'), 2);
+                CHECK.due("decode " + word, loom.decode(word), op);
+            }
+            CHECK.due("free", loom.free(), 0);
+        }
+        for (int turn = 0; turn < 4; turn++) {
+            String more = turn < 2 ? " op b \"1bbbbbbb\" {}" : "";
+            int ops = Check.build(loom, "bits 8; op a \"0aaaaaaa\" {}" + more);
+            CHECK.due("a FIELD", loom.field(0, 'a', 3), 3);
+            if (ops == 1) {
+                CHECK.thrown("an op of an earlier machine", java.util.NoSuchElementException.class, () -> loom.field(1, 'b', 3));
+                CHECK.due("an op of an earlier machine", loom.decode(128), -1);
+            }
+        }
+        CHECK.due("count(7)", loom.count(7), 0);
     }
 }

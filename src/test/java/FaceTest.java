@@ -85,6 +85,12 @@ public final class FaceTest {
         for (int op : ops) {
             CHECK.thrown("field(" + op + ")", NoSuchElementException.class, () -> loom.field(op, 'x', 0));
         }
+        MachineLoom letterings = Check.of("bits 8; op a \"aAzZmMaZ\" {}");
+        char[] all = {'a', 'A', 'z', 'Z', 'm', 'M'};
+        int[] due = {0b11, 0, 1, 0b01, 0, 1};
+        for (int i = 0; i < 6; i++) {
+            CHECK.due("FIELD " + all[i], letterings.field(0, all[i], 0b10100111), due[i]);
+        }
         MachineLoom whole = Check.of("bits 64; op a \"" + "a".repeat(64) + "\" {}");
         CHECK.due("64 bits", whole.field(0, 'a', Long.MIN_VALUE + 5), Long.MIN_VALUE + 5);
     }

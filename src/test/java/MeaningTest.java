@@ -152,6 +152,9 @@ public final class MeaningTest {
         right("w = {p, p, p, p, p, p, p, p};");
         in(4, "w `= {p, p, p, p, p, p, p};");
         in(4, "`if p { }");
+        in(4, "`if c { }");
+        in(4, "p `= q[0];");
+        in(4, "p `= q[0:0];");
         in(4, "if q { } else `if w { }");
         right("if p == p { }");
         in(4, "f[p] `= q;");
@@ -287,6 +290,7 @@ public final class MeaningTest {
         CHECK.fault("bits 8; fetch `p from m; reg p: 8; file m: 8[4];", 2);
         CHECK.fault("bits 8; reg p: 8; file m: 8[4]; fetch p from m; `fetch p from m;", 6);
         CHECK.fault("bits 8; reg p: 8; file m: 8[4]; fetch p from m; `fetch x from x;", 6);
+        CHECK.fault("bits 8; file m: 8[4]; reg p: 8; fetch p from m; `fetch p from m;", 6);
     }
 
     private static void leastPlace() {

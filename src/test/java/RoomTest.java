@@ -7,7 +7,12 @@ public final class RoomTest {
 
     public static void main(String[] args) {
         // The Reference goes as deep as a text says; the program doesn't.
-        new Thread(null, RoomTest::all, "deep", 1L << 29).start();
+        Thread deep = new Thread(null, RoomTest::all, "deep", 1L << 29);
+        deep.setUncaughtExceptionHandler((thread, e) -> {
+            e.printStackTrace();
+            System.exit(1);
+        });
+        deep.start();
     }
 
     private static void all() {
@@ -34,6 +39,11 @@ public final class RoomTest {
         compare(fill(HEAD, "if q{}else ", 32765) + "{}}");
         compare(manyNames());
         compare(fill("bits 8;#", "remark"));
+        String[] lasts = {"abc", "_", "123", "0", "0x", "0x1", "\"", "\"01", "\"01\"", ">", ">>", "<", "<=", "=", "!", "#", "'", "{"};
+        for (String last : lasts) {
+            compare(" ".repeat(32768 - last.length()) + last);
+            compare("bits 8;" + " ".repeat(32761 - last.length()) + last);
+        }
         CHECK.finish();
     }
 

@@ -102,6 +102,7 @@ final class Rv32 {
         int b = x[w >>> 20 & 31];
         int result;
         boolean writes = true;
+        boolean jumps = false;
         try {
             switch (w & 127) {
                 case 0x37:
@@ -112,16 +113,19 @@ final class Rv32 {
                     break;
                 case 0x6f:
                     result = next;
+                    jumps = true;
                     next = pc + immJ(w);
                     break;
                 case 0x67:
                     result = next;
+                    jumps = true;
                     next = a + immI(w) & ~1;
                     break;
                 case 0x63:
                     result = 0;
                     writes = false;
                     if (taken(name, a, b)) {
+                        jumps = true;
                         next = pc + immB(w);
                     }
                     break;
@@ -147,7 +151,7 @@ final class Rv32 {
         } catch (Outside o) {
             return -3;
         }
-        if ((next & 3) != 0 && next != pc + 4) {
+        if (jumps && (next & 3) != 0) {
             return 1;
         }
         if (writes && rd != 0) {

@@ -209,6 +209,10 @@ public final class ShippedTest {
             MachineLoom loom = new MachineLoom();
             loom.ship();
             Rv32 due = new Rv32();
+            random.nextBytes(due.m);
+            for (int i = 0; i < Rv32.MEMORY; i++) {
+                loom.poke(2, i, due.m[i]);
+            }
             for (int i = 0; i < steps; i++) {
                 prepare(loom, due, random);
                 String name = Rv32.NAMES[random.nextInt(48)];

@@ -11,6 +11,7 @@ public final class StepTest {
         fetchInStep();
         runs();
         wordsFromCells();
+        fetchFromFirst();
         ends();
         wideIndexes();
         manyAssignments();
@@ -195,6 +196,15 @@ public final class StepTest {
             CHECK.due("the WORD", loom.peek(2, 0), word);
             CHECK.due("pc", loom.peek(0, 0), 3 + bytes);
         }
+    }
+
+    /** The FILE and the register of a fetch may be any THINGS. */
+    private static void fetchFromFirst() {
+        MachineLoom loom = Check.of("bits 8; file m: 8[4]; reg a: 8; reg pc: 8; fetch pc from m; op o \"........\" { a = a; }");
+        CHECK.due("run", loom.run(10), 4);
+        CHECK.due("trap", loom.trap(), -1);
+        CHECK.due("pc", loom.peek(2, 0), 4);
+        CHECK.due("a", loom.peek(1, 0), 0);
     }
 
     private static void ends() {
