@@ -264,6 +264,8 @@ public final class MachineLoom {
 
     /** VALUES and what is worked out of them. */
     private static final class Bits {
+        private static final long HIGHEST_BIT = 1L << 63;
+
         static long mask(int width) {
             return width >= MOST_WIDTH ? -1L : (1L << width) - 1;
         }
@@ -274,7 +276,7 @@ public final class MachineLoom {
         }
 
         static boolean below(long left, long right) {
-            return left + Long.MIN_VALUE < right + Long.MIN_VALUE;
+            return (left ^ HIGHEST_BIT) < (right ^ HIGHEST_BIT);
         }
 
         static long gather(long word, long mask) {
