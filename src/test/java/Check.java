@@ -5,13 +5,35 @@ import java.util.concurrent.Callable;
 final class Check {
     private int wrong;
     private int looked;
+    private String sentence = "";
+    private int sentences;
+    private int lookedBefore;
+
+    /** What is looked at from here on is a test of that sentence of the document. */
+    void sentence(String words) {
+        endSentence();
+        sentence = words;
+        sentences++;
+        lookedBefore = looked;
+    }
+
+    /** A sentence without any answer has no test. */
+    private void endSentence() {
+        if (!sentence.isEmpty() && looked == lookedBefore) {
+            say("nothing was looked at");
+        }
+    }
+
+    private void say(String what) {
+        wrong++;
+        System.out.println(sentence.isEmpty() ? what : "[" + sentence + "] " + what);
+    }
 
     /** An answer that is due. */
     void due(String what, long is, long due) {
         looked++;
         if (is != due) {
-            wrong++;
-            System.out.println(what + " is " + is + ", due is " + due);
+            say(what + " is " + is + ", due is " + due);
         }
     }
 
@@ -25,13 +47,14 @@ final class Check {
             got = e.getClass();
         }
         if (got != due) {
-            wrong++;
-            System.out.println(what + " throws " + got + ", due is " + due);
+            say(what + " throws " + got + ", due is " + due);
         }
     }
 
     void finish() {
-        System.out.println(looked + " answers looked at, " + wrong + " wrong");
+        endSentence();
+        String of = sentences == 0 ? "" : " of " + sentences + " sentences";
+        System.out.println(looked + " answers" + of + " looked at, " + wrong + " wrong");
         System.exit(wrong == 0 && looked > 0 ? 0 : 1);
     }
 

@@ -16,6 +16,7 @@ public final class RoomTest {
     }
 
     private static void all() {
+        CHECK.sentence("All memory is the class's own rows; what is made of a TEXT is bounded by its length.");
         String[] more = {";", "(", "[", "{", "-", "~", "x", "x ", "ab ", "8", "8 ", "0x", "\"", "\"\"", "#", "#\n", " ", "\n",
             "?", "'", ">", "<", "=", "reg a:1;", "let a=p;", "op a\"\"{}", "if q{", "if q{}", "if q{}else ", "p=p;", "p[", "f[p]=",
             "trap 1;", "file a:8[1];", "bits 8;", "\u0000", "\u00ff"};
