@@ -923,7 +923,8 @@ public final class MachineLoom {
             }
             nodes = 0;
             addLeaf(0, program.ops);
-            for (int node = 0; node < nodes; node++) {
+            // Each parting adds two nodes of fewer ops, so there are never more than the row has.
+            for (int node = 0; node < nodes && node < bits.length; node++) {
                 int bit = partingBit(program, lows[node], highs[node]);
                 if (bit >= 0) {
                     part(program, node, bit);

@@ -335,6 +335,9 @@ public final class FaultBoundsTest {
         CHECK.fault(one + "`fetch p from m;", 6);
         CHECK.fault(one + "reg r: 8; `fetch r from m; fetch r from m;", 6);
         CHECK.fault(one + "`fetch unknown from p;", 6);
+        // The FILE may be the first THING, and the register the first one.
+        CHECK.fault("bits 8; file m: 8[4]; reg p: 8; fetch p from m; `fetch p from m;", 6);
+        CHECK.fault("bits 8; reg p: 8; file m: 8[4]; fetch p from m; op o \"........\" {} `fetch p from m;", 6);
     }
 
     private static void withoutWidth() {
@@ -360,6 +363,9 @@ public final class FaultBoundsTest {
         in(number, "q = !(" + expr + ");");
         in(number, "q = -(" + expr + ");");
         in(number, "q = {w, w, " + expr + "};");
+        in(number, "w = {p, " + expr + "};");
+        in(number, "w = {" + expr + ", w, w};");
+        in(number, "w = {p, " + expr + ", w, w};");
         in(number, "q = f[" + expr + "];");
         in(number, "q = p << (" + expr + ");");
         in(number, "q = sra(p, " + expr + ");");
@@ -473,6 +479,34 @@ public final class FaultBoundsTest {
         CHECK.thrown("an empty one", IllegalStateException.class, loom::build);
         CHECK.due("fault(0)", loom.fault(0), 1);
         CHECK.due("fault(1)", loom.fault(1), 0);
+        nothingLeft();
+    }
+
+    /** Wherever a TEXT with a FAULT ends, the next one begins anew: NAMES, FIELDS, lets, cells, what is begun of an EXPR. */
+    private static void nothingLeft() {
+        String whole = "bits 16; reg p: 8; file f: 8[65536]; fetch p from f; op o \"00aabbccddeeffgg\" { let l = p; if p == 8'1 { let k = l; p = k + (l * {a, b, c, d[1:0]}[7:0]"
+                + " ? sdiv(l, k) : -~p); f[zx(a, 8) | slt(p, p) + (p << sx(b, 64))] = p; } else if (p) { trap 5; } } z";
+        String next = "bits 8; file a: 8[65535]; file p: 64[1]; reg l: 8; reg k: 8; op o \"000ooooo\" { k = l + (k * {o, o[2:0]}); } reg f: 8; fetch f from a; op u \"1.......\" { trap 9; }";
+        MachineLoom loom = new MachineLoom();
+        for (int turn = 0; turn < 3; turn++) {
+            for (int length = 0; length <= whole.length(); length++) {
+                String text = whole.substring(0, length) + (turn == 0 ? "" : turn == 1 ? "$" : ";;");
+                try {
+                    Check.build(loom, text);
+                } catch (IllegalStateException e) {
+                    // That it has a FAULT is not what is looked at here.
+                }
+                CHECK.due("build", Check.build(loom, next), 2);
+                loom.poke(2, 0, 3);
+                loom.poke(3, 0, 5);
+                CHECK.due("step", loom.step(2), 0);
+                CHECK.due("k", loom.peek(3, 0), 3 + 5 * 18);
+                CHECK.due("f", loom.peek(4, 0), 1);
+                CHECK.due("trap", loom.step(128), 9);
+                CHECK.due("THINGS", loom.count(2), 5);
+                CHECK.due("cells", loom.count(3), 65536);
+            }
+        }
     }
 
     private static void buildRefused() {

@@ -236,6 +236,22 @@ public final class GrammarBoundsTest {
             loom.step(word << 4);
             CHECK.due("p", loom.peek(0, 0), due[word]);
         }
+        // Of a row of them just one BLOCK is gone through, the first whose EXPR is 1.
+        StringBuilder row = new StringBuilder("bits 8; reg p: 8; reg n: 8; op o \"aaaaaaaa\" { ");
+        for (int i = 0; i < 20; i++) {
+            row.append("if a <= 8'").append(10 * i).append(" { p = 8'").append(i).append("; n = n + 8'1; } else ");
+        }
+        MachineLoom with = Check.of(row + "{ p = 8'99; n = n + 8'1; } n = n + 8'1; }");
+        MachineLoom without = Check.of(row.substring(0, row.length() - 5) + " n = n + 8'1; }");
+        for (int word = 0; word < 256; word++) {
+            int first = (word + 9) / 10;
+            with.step(word);
+            CHECK.due("p", with.peek(0, 0), first < 20 ? first : 99);
+            CHECK.due("n", with.peek(1, 0), 2 * (word + 1) & 255);
+            without.poke(0, 0, 77);
+            without.step(word);
+            CHECK.due("p", without.peek(0, 0), first < 20 ? first : 77);
+        }
     }
 
     private static long valueOf(int width, String expr) {
@@ -259,6 +275,14 @@ public final class GrammarBoundsTest {
         wrongIn("p = q ? p : p `: p;");
         wrongIn("p = q `: p;");
         wrongIn("p = `? p : p;");
+        wrongIn("p = (p `: p);");
+        wrongIn("p = {p `: p};");
+        wrongIn("p = f[p `: p];");
+        wrongIn("p = sx(p `: 8);");
+        wrongIn("q = slt(p `: p);");
+        wrongIn("q = slt(p, p `: p);");
+        wrongIn("f[p `: p] = p;");
+        wrongIn("if q `: q {}");
     }
 
     private static void bindings() {
@@ -339,6 +363,16 @@ public final class GrammarBoundsTest {
         wrongIn("p = {p`;");
         wrongIn("p = (p`};");
         wrongIn("p = {p`);");
+        wrongIn("p = (p`];");
+        wrongIn("p = {p`];");
+        wrongIn("p = f[p`);");
+        wrongIn("p = f[p`};");
+        wrongIn("p = sx(p`];");
+        wrongIn("q = slt(p, p`];");
+        wrongIn("q = slt(p, p`};");
+        wrongIn("p = q ? p`];");
+        wrongIn("p = p`];");
+        wrongIn("f[p`) = p;");
         wrongIn("p = {p, `, p};");
     }
 
@@ -520,5 +554,17 @@ public final class GrammarBoundsTest {
         wrongIn(deep + "`( $");
         wrongIn("p = " + times(59, "(") + "p`");
         wrongIn("p = " + times(59, "(") + "`");
+        // A text that ends deep leaves nothing of its DEPTH to the next one.
+        MachineLoom loom = new MachineLoom();
+        for (int turn = 0; turn < 10; turn++) {
+            CHECK.thrown("ends deep", IllegalStateException.class, () -> Check.build(loom, HEAD + deep + ";"));
+            CHECK.due("60", Check.build(loom, HEAD + deep + "p" + times(10, "]})") + "; } }"), 1);
+            CHECK.thrown("61", IllegalStateException.class, () -> Check.build(loom, HEAD + deep + "-p" + times(10, "]})") + "; } }"));
+            CHECK.due("THE PLACE of 61", loom.fault(1), HEAD.length() + deep.length());
+        }
+        for (int turn = 0; turn < 60; turn++) {
+            CHECK.thrown("much is begun", IllegalStateException.class, () -> Check.build(loom, HEAD + "p = " + times(58, "p + (") + ";"));
+        }
+        CHECK.due("59", Check.build(loom, HEAD + "p = " + times(59, "p + (") + "p" + times(59, ")") + "; }"), 1);
     }
 }

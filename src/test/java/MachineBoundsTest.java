@@ -162,6 +162,14 @@ public final class MachineBoundsTest {
         for (int i = 0; i < where.length; i++) {
             CHECK.due("THING " + where[i][0] + " at " + where[i][1], loom.peek(where[i][0], where[i][1]), behind[i]);
         }
+        // Also what was begun of an EXPR, however often.
+        MachineLoom often = Check.of("bits 8; reg p: 8; file f: 8[4]; op o \"0.......\" { p = p + 8'1; p = p + (p + (p + (p + (p + {f[8'9]})))); } op u \"1.......\" { p = p + (p + 8'1); }");
+        for (int turn = 0; turn < 600; turn++) {
+            CHECK.due("step", often.step(0), -3);
+        }
+        CHECK.due("p", often.peek(0, 0), 0);
+        CHECK.due("step", often.step(128), 0);
+        CHECK.due("p", often.peek(0, 0), 1);
         // What the STEPS before did is not.
         MachineLoom run = Check.of("bits 8; reg pc: 8; reg n: 8; file m: 8[4]; fetch pc from m; op o \"00000000\" { n = n + 8'1; } op t \"00000001\" { n = 8'99; trap 1; }");
         run.poke(2, 3, 1);
@@ -271,6 +279,11 @@ public final class MachineBoundsTest {
                 CHECK.due("TRAPS", loom.count(6), traps);
             }
         }
+        // The FILE may be the first THING as well.
+        MachineLoom first = Check.of("bits 8; file m: 8[3]; reg pc: 8; fetch pc from m; op o \"........\" {}");
+        CHECK.due("run", first.run(500), 3);
+        CHECK.due("trap", first.trap(), -1);
+        CHECK.due("pc", first.peek(1, 0), 3);
         // A WORD given by step is no matter of cells.
         MachineLoom loom = Check.of("bits 64; reg pc: 64; file m: 8[1]; fetch pc from m; op o \"" + ".".repeat(64) + "\" {}");
         CHECK.due("step", loom.step(0), 0);

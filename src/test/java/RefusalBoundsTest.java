@@ -177,6 +177,12 @@ public final class RefusalBoundsTest {
         CHECK.due("build", loom.build(), 1);
         CHECK.due("step", loom.step(0), 0);
         CHECK.due("peek", loom.peek(0, 0), sums & 255);
+        for (int turn = 0; turn < 20; turn++) {
+            Check.feed(loom, text.toString());
+            CHECK.due("build again", loom.build(), 1);
+            CHECK.due("step", loom.step(0), 0);
+            CHECK.due("peek", loom.peek(0, 0), sums & 255);
+        }
         // Each call 512 times on one object.
         MachineLoom many = new MachineLoom();
         for (int i = 0; i < 512; i++) {
