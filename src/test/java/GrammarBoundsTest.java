@@ -42,7 +42,7 @@ public final class GrammarBoundsTest {
     }
 
     private static void lengths() {
-        CHECK.sentence("(8, 16, 32 or 64: the LENGTH of instructions.)");
+        CHECK.sentence("TEXT: 'bits' NUMBER ';' ITEM*. (8, 16, 32 or 64: the LENGTH of instructions.)");
         for (int bits = 0; bits <= 130; bits++) {
             if (bits == 8 || bits == 16 || bits == 32 || bits == 64) {
                 CHECK.due("LENGTH", Check.of("bits " + bits + ";").count(1), bits);
@@ -50,6 +50,11 @@ public final class GrammarBoundsTest {
                 CHECK.fault("bits `" + bits + ";", 3);
             }
         }
+        wrong("bits `;");
+        wrong("bits `bits;");
+        wrong("bits 8 `8;");
+        wrong("bits 8`:");
+        wrong("bits`");
         for (String far : "264 65544 4294967304 4294967328 18446744073709551615 0x8000000000000008".split(" ")) {
             CHECK.fault("bits `" + far + ";", 3);
         }
@@ -96,7 +101,7 @@ public final class GrammarBoundsTest {
     }
 
     private static void files() {
-        CHECK.sentence("(a FILE of cells of that WIDTH, so many, 1 .. 65536");
+        CHECK.sentence("'file' NAME ':' NUMBER '[' NUMBER ']' 'zero'? ';' (a FILE of cells of that WIDTH, so many, 1 .. 65536");
         for (int cells : new int[] {1, 2, 255, 256, 257, 65535, 65536}) {
             MachineLoom loom = Check.of("bits 8; file f: 9[" + cells + "];");
             CHECK.due("cells", loom.thing(0, 1), cells);
@@ -112,6 +117,11 @@ public final class GrammarBoundsTest {
         for (String width : "0 65 18446744073709551615".split(" ")) {
             CHECK.fault("bits 8; file f: `" + width + "[4];", 3);
             CHECK.fault("bits 8; file f: `" + width + "[0];", 3);
+        }
+        String[] wrongs = {"file `: 8[4];", "file f `8[4];", "file f: `[4];", "file f: 8`;", "file f: 8 `zero;", "file f: 8[`];", "file f: 8[4`;", "file f: 8[4`:0];",
+            "file f: 8[4]`", "file f: 8[4]`[4];", "file f: 8[4] `f;", "file f: 8[4] zero `zero;", "file f: 8[4] zero`", "file f: 8`'8[4];", "file f: 8[`f];"};
+        for (String w : wrongs) {
+            wrong("bits 8; " + w);
         }
         CHECK.due("WIDTH 1", Check.of("bits 8; file f: 1[1];").thing(0, 0), 1);
         CHECK.due("WIDTH 64", Check.of("bits 8; file f: 64[1];").thing(0, 0), 64);
@@ -160,7 +170,7 @@ public final class GrammarBoundsTest {
     }
 
     private static void ops() {
-        CHECK.sentence("| 'op' NAME CODE BLOCK.");
+        CHECK.sentence("'op' NAME CODE BLOCK. BLOCK: '{' STATEMENT* '}'.");
         CHECK.right("bits 8; op o \"........\" {}");
         CHECK.right("bits 8;op o\"........\"{}");
         wrong("bits 8; op `\"........\" {}");

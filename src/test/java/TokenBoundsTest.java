@@ -228,7 +228,7 @@ public final class TokenBoundsTest {
     }
 
     private static void signs() {
-        CHECK.sentence("; { } ( ) [ ] = ; : , ? ' < + - * / % & | ^ ~ !.");
+        CHECK.sentence("== != <= << >> ; { } ( ) [ ] = ; : , ? ' < + - * / % & | ^ ~ !.");
         // Each of them is wrong as an ITEM, at its own place, and does not hide a BROKEN one behind it.
         for (String sign : "== != <= << >> { } ( ) [ ] = ; : , ? ' < + - * / % & | ^ ~ !".split(" ")) {
             wrong("bits 8;" + sign + "$", 7);
