@@ -260,6 +260,35 @@ public final class FaultBoundsTest {
         CHECK.due("a register between them", loom.peek(1, 0), 0);
         CHECK.due("the last of a", loom.peek(0, 65534), -1);
         CHECK.due("the one of b", loom.peek(2, 0), -2);
+        allFull(0);
+        allFull(31);
+        allFull(63);
+    }
+
+    /** 63 registers and as many cells as there may be, with the FILE at that place: each has its own VALUE. */
+    private static void allFull(int at) {
+        StringBuilder b = new StringBuilder("bits 64;");
+        for (int t = 0; t < 64; t++) {
+            b.append(t == at ? "file f:8[65536];" : "reg r" + t + ":64;");
+        }
+        int pc = at == 0 ? 1 : 0;
+        b.append("fetch r").append(pc).append(" from f;op o\"").append("a".repeat(64)).append("\"{r2=a;f[64'65535]=8'9;}");
+        MachineLoom loom = Check.of(b.toString());
+        for (int t = 0; t < 64; t++) {
+            loom.poke(t, t == at ? 65535 : 0, 100 + t);
+        }
+        loom.poke(pc, 0, 65528);
+        CHECK.due("run of the last WORD", loom.run(500), 1);
+        CHECK.due("trap", loom.trap(), -1);
+        CHECK.due("the WORD", loom.peek(2, 0), 100L + at << 56);
+        for (int t = 3; t < 64; t++) {
+            if (t != at) {
+                CHECK.due("register " + t, loom.peek(t, 0), 100 + t);
+            }
+        }
+        CHECK.due("the last cell", loom.peek(at, 65535), 9);
+        CHECK.due("the first cell", loom.peek(at, 0), 0);
+        CHECK.due("pc", loom.peek(pc, 0), 65536);
     }
 
     private static String ops(int n) {

@@ -48,6 +48,11 @@ public final class NameBoundsTest {
     private static void fieldsInTheirBlock() {
         CHECK.sentence("In an op: each letter of its CODE is a FIELD, in its BLOCK");
         CHECK.right(HEAD + "op o \"abcdefgh\" { q = a; q = b; q = c; q = d; q = e; q = f; q = g; q = h; }");
+        for (char letter : "abcdefghijklmnopqrstuvwxyzABCDEFGHIJKLMNOPQRSTUVWXYZ".toCharArray()) {
+            MachineLoom loom = Check.of("bits 8; reg r_: 4; op o \"." + letter + "." + letter + "." + letter + "." + letter + "\" { r_ = " + letter + "; }");
+            loom.step(0b01010001);
+            CHECK.due("the FIELD " + letter, loom.peek(0, 0), 0b1101);
+        }
         CHECK.right(HEAD + "op o \"zzzzZZZZ\" { let l = z + 4'1; let k = Z + 4'1; if q { let m = z; } }");
         CHECK.fault(HEAD + "op o \"0.......\" { q = `a; } op u \"1aaaaaaa\" { }", 2);
         CHECK.fault(HEAD + "op o \"0aaaaaaa\" { } op u \"1.......\" { q = `a; }", 2);
